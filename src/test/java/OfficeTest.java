@@ -6,6 +6,7 @@ public final class OfficeTest {
   public static void main(String[] args) {
     newObject();
     firstFaults();
+    partsOfATextAlone();
     textsThatAreTaken();
     officeRefusals();
     aTextMakesAllAnew();
@@ -86,6 +87,10 @@ public final class OfficeTest {
     textFault("w/5;m439", 7);
     textFault("w/5;m43;", 7);
     textFault("w/5;m4/1", 6);
+    textFault("w/5;m:01", 5);
+    textFault("w/5;m/01", 5);
+    textFault("w/5;m40:", 7);
+    textFault("w/5;m40/", 7);
     textFault("w/5;m431/", 8);
     textFault("w/5;m431w", 8);
     textFault("w/5;m4311", 8);
@@ -94,6 +99,23 @@ public final class OfficeTest {
     textFault("w/5;m401;m401;m401;m401;", 23);
     textFault("w/5;m401;m401;m401;m401;m401", 23);
     textFault("w/5;m401;m401;m401;m401/", 23);
+  }
+
+  /** What stands behind the n cells is no part of the text; at the end of a row there is nothing. */
+  private static void partsOfATextAlone() {
+    String text = "w/1/2;m401;s206";
+    for (int n = 0; n <= text.length(); n++) {
+      int due = n == 10 ? 1 : n == 15 ? 2 : -100 - n;
+      ProphetCover x = new ProphetCover();
+      x.sheet(0, 0, 60);
+      x.sheet(1, 0, 60);
+      for (int i = 0; i < text.length(); i++) {
+        x.put(0, i, text.charAt(i));
+        x.put(1, 60 - n + i, text.charAt(i));
+      }
+      Due.due("2: the first " + n + " codes", x.office(0, 0, 0, n), due);
+      Due.due("2: as many at the end of a row", x.office(1, 0, 60 - n, n), due);
+    }
   }
 
   private static void textsThatAreTaken() {

@@ -91,6 +91,7 @@ public final class PremiumsTest {
     x.fate(1, 0);
     Due.due("13: what never comes is not said", x.best(0, 0), 4);
     Due.due("13: of one event none", Due.officeBy("w/9;l900").best(0, 0), 0);
+    Due.due("13: a tenth is something", Due.officeBy("w/1/1;m100").best(0, 0), 1);
     Due.due("13: of five four", Due.officeBy("w/9/1/2/3/4;l900").best(0, 0), 29);
     Due.due("13: of five four, the least", Due.officeBy("w/9/9/9/9/9;l900").best(0, 9), 15);
   }

@@ -38,12 +38,14 @@ public final class SheetsTest {
     refusedAs(x, x.sheet(0, 0, Integer.MAX_VALUE), OUTSIDE);
     Due.due("22: still nothing", x.lose(0), 0);
     Due.due("21: a row", x.sheet(0, 1, 60), 1);
+    Due.due("23: its first cell", x.put(0, 0, 6), 1);
     Due.due("23: its last cell", x.put(0, 59, 5), 1);
     faultIs(x, x.put(0, 60, 5), 3);
     faultIs(x, x.sheet(0, 0, -1), 4);
     Due.due("21: a fault leaves the row", x.cell(0, 59, 1), 5);
     Due.due("21: a new row", x.sheet(0, 1, 60), 1);
     Due.due("21: it is 0 at first", x.cell(0, 59, 1), 0);
+    Due.due("21: it is 0 at first", x.cell(0, 0, 1), 0);
     Due.due("21: an empty row", x.sheet(0, 0, 0), 1);
     faultIs(x, x.put(0, 0, 1), 3);
     Due.due("22: an empty row is a row", x.lose(0), 1);
