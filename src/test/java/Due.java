@@ -1,5 +1,7 @@
 /** Counts the answers that are not as due, and ends a test. */
 final class Due {
+  /** Which test runs, so that a line that it prints is found by its name. */
+  static String test = "";
   private static int wrong = 0;
 
   private Due() {}
@@ -7,14 +9,14 @@ final class Due {
   static void due(String call, long got, long want) {
     if (got != want) {
       wrong++;
-      System.out.println(call + " answered " + got + ", due is " + want);
+      System.out.println(test + call + " answered " + got + ", due is " + want);
     }
   }
 
   static void holds(String what, boolean so) {
     if (!so) {
       wrong++;
-      System.out.println("does not hold: " + what);
+      System.out.println(test + "does not hold: " + what);
     }
   }
 
