@@ -119,6 +119,16 @@ public final class PremiumsEdgesTest {
 
   @Says("HOLD by n (of 10): the least that is as much at least as what is PAID to all together, in n of"
       + " 10 at least.")
+  static void promise12_oneLessIsLess() {
+    // 0: .45, 1: .45, 10: .05, 11: .05
+    ProphetCover x = Due.officeBy("w/5/1/0;m101;l402;l904");
+    areHolds(x, 0, 0, 0, 0, 0, 1, 1, 1, 1, 1, 11);
+    x.fate(1, 2);
+    areHolds(x, 0, 0, 0, 0, 0, 1, 1, 1, 1, 10, 11);
+  }
+
+  @Says("HOLD by n (of 10): the least that is as much at least as what is PAID to all together, in n of"
+      + " 10 at least.")
   static void promise12_by0ItIs0() {
     Due.due("though something is mostly paid", Due.officeBy("w/9/9/9/9/9;l930;l915").hold(0), 0);
   }

@@ -266,6 +266,35 @@ public final class TermsEdgesTest {
     Due.due("always, lower", x.odds(0, 1), 1);
   }
 
+  @Says("Nothing is promised beyond the answers and state changes described above")
+  static void terms_callsThatAskChangeNothing() {
+    ProphetCover x = Still.standing();
+    String ahead = Still.stateOf(x);
+    for (int which = 0; which < 2; which++) {
+      x.fair(0, which);
+      x.came(11, which);
+      x.odds(11, which);
+    }
+    for (int what : new int[] {0, 1, 2, 3, 10, 13}) {
+      x.years(1, 0, 0, 0, 3, what);
+    }
+    x.paid(0, 7);
+    x.total(7);
+    x.safe(0);
+    x.hold(5);
+    x.best(0, 1);
+    x.covers(0);
+    x.kinds(0);
+    x.sayings(0, 0);
+    x.as(2, 1);
+    x.fault();
+    x.trace();
+    x.back(0);
+    x.office(3, 0, 0, 26);
+    x.copy(0, 0, 3, 0, 0);
+    Due.holds("all stays", Still.stateOf(x).equals(ahead));
+  }
+
   @Says("An object is used for at most 512 calls after it has been made")
   static void terms_theLastOf512CallsAnswersToo() {
     ProphetCover x = new ProphetCover();

@@ -149,6 +149,16 @@ public final class YearsEdgesTest {
     areYears(x, 0, 3, 1, 0, NONE, 0, 0, 0, 0, 0, 0);
   }
 
+  @Says("YEARS of n such cells at a PREMIUM (0 .. 9)")
+  static void promise09_theCellsAheadOfIAndBehindNAreNoYears() {
+    ProphetCover x = withYears(7, 7, 5, 7, 7);
+    areYears(x, 2, 2, 1, 16 - 21, 0, 21, 21, 4, 3, 0, 14);
+    areYears(x, 9, 2, 1, 72 - 21, NONE, 21, 21, 4, 3, 0, 14);
+    areYears(x, 9, 2, 0, 0, NONE, 0, 0, 0, 0, 0, 0);
+    Due.row(x, 0, 0, 8, 5, 8);
+    areYears(x, 2, 1, 1, 16 - 21, 0, 21, 21, 4, 3, 0, 14);
+  }
+
   @Says("what the OFFICE has (0 at first): more by PREMIUMS, less by what it PAYS.")
   static void promise09_noYearsAtAll() {
     areYears(withYears(), 9, 0, 0, 0, NONE, 0, 0, 0, 0, 0, 0);
